@@ -580,9 +580,9 @@ public final class ShyStrip {
             case 7:
                 return land.ladies();
             case 8:
-                return thereOf(rows, ROWS);
+                return thereOf(rows);
             case 9:
-                return thereOf(texts, TEXTS);
+                return thereOf(texts);
             case 10:
                 return keptLands();
             default:
@@ -632,21 +632,6 @@ public final class ShyStrip {
         return r >= 0 && r < ROWS;
     }
 
-    private int refuseMissing(Row[] shelf, int place) {
-        if (place < 0 || place >= shelf.length) {
-            return BAD;
-        }
-        return shelf[place].isMissing() ? refuse(NOTHING) : WELL;
-    }
-
-    private int refusePlace(Row[] shelf, int place, int i) {
-        int refused = refuseMissing(shelf, place);
-        if (refused != WELL) {
-            return refused;
-        }
-        return shelf[place].hasPlace(i) ? WELL : refuse(BEYOND);
-    }
-
     private static boolean isText(int t) {
         return t >= 0 && t < TEXTS;
     }
@@ -661,6 +646,21 @@ public final class ShyStrip {
             found[finding]++;
         }
         return FINDING;
+    }
+
+    private int refuseMissing(Row[] shelf, int place) {
+        if (place < 0 || place >= shelf.length) {
+            return BAD;
+        }
+        return shelf[place].isMissing() ? refuse(NOTHING) : WELL;
+    }
+
+    private int refusePlace(Row[] shelf, int place, int i) {
+        int refused = refuseMissing(shelf, place);
+        if (refused != WELL) {
+            return refused;
+        }
+        return shelf[place].hasPlace(i) ? WELL : refuse(BEYOND);
     }
 
     private int ofOne(int i, int what) {
@@ -680,9 +680,9 @@ public final class ShyStrip {
         }
     }
 
-    private static int thereOf(Row[] shelf, int size) {
+    private static int thereOf(Row[] shelf) {
         int there = 0;
-        for (int s = 0; s < size && s < shelf.length; s++) {
+        for (int s = 0; s < shelf.length; s++) {
             if (!shelf[s].isMissing()) {
                 there++;
             }
