@@ -276,5 +276,10 @@ final class LandTests {
         check.due("coast(6)", x.coast(6), BAD);
         check.due("coast(-1)", x.coast(-1), BAD);
         check.due("asked()", x.asked(), 0);
+        x = Lands.of("n52200 p230 p120");
+        check.due("coast(2), no STRIP", x.coast(2), 0);
+        check.due("coast(3), no STRIP", x.coast(3), 0);
+        check.due("coast(4), no STRIP", x.coast(4), 2);
+        check.due("coast(5), no STRIP", x.coast(5), 3);
     }
 }

@@ -61,9 +61,11 @@ final class RowTests {
         check.due("finding()", x.finding(), 0);
         check.dueFinding(x, "row(5, -1)", () -> x.row(5, -1), 5);
         check.dueFinding(x, "row(5, MIN)", () -> x.row(5, MIN), 5);
+        x.lay(5, 0, 6);
         x.lay(5, 39, 7);
         check.dueAsked(x, "at(5, 39)", x.at(5, 39), 7);
         check.due("row(5, 3) anew", x.row(5, 3), 3);
+        check.dueAsked(x, "at(5, 0)", x.at(5, 0), 0);
         check.due("row(5, 40) anew", x.row(5, 40), 40);
         check.dueAsked(x, "at(5, 39)", x.at(5, 39), 0);
     }
@@ -187,8 +189,10 @@ final class RowTests {
         check.due("text(4, -1)", x.text(4, -1), BAD);
         check.dueFinding(x, "text(3, -1)", () -> x.text(3, -1), 5);
         check.due("count(9)", x.count(9), 2);
+        check.due("put(3, 0, 1)", x.put(3, 0, 1), 1032);
         check.due("put(3, 59, 1)", x.put(3, 59, 1), 1032);
         check.due("text(3, 60) anew", x.text(3, 60), 60);
+        check.due("put(3, 0, 1)", x.put(3, 0, 1), 1032);
         check.due("put(3, 59, 1)", x.put(3, 59, 1), 1032);
     }
 

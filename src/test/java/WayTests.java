@@ -36,6 +36,9 @@ final class WayTests {
         check.due("way(3, 4), one there now", x.way(3, 4), 4);
         x.step(1, 1);
         check.due("way(3, 4), in the STRIP now", x.way(3, 4), 1);
+        ShyStrip none = Lands.of("n32200 p000 p210");
+        check.due("way(0, 1), the WEST's, no STRIP", none.way(0, 1), 2);
+        check.due("way(1, 2), the EAST's, no STRIP", none.way(1, 2), 4);
         // one who does not BELONG in the STRIP itself takes nothing more
         ShyStrip out = Lands.of("n31200 o010");
         out.walk(0, 1);
@@ -58,6 +61,9 @@ final class WayTests {
         ShyStrip even = Lands.of("n40400 p010");
         check.due("far(1)", even.far(1), 4);
         check.due("asked(), the first of two", even.asked(), 1);
+        ShyStrip first = Lands.of("n31200 p010");
+        check.due("far(2)", first.far(2), 1 + 4);
+        check.due("asked(), the first CELL of all", first.asked(), 0);
     }
 
     private static void kindsOf(Check check, ShyStrip x, int due, int... papers) {

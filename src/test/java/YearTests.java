@@ -129,6 +129,19 @@ final class YearTests {
         ShyStrip flag = Lands.of("n91400 f280 p190");
         check.due("duel(0)", flag.duel(0), 14);
         check.due("duel(1), the WEST comes on", flag.duel(1), 0);
+        flag = Lands.of("n92400 f380");
+        check.due("duel(0), the FLAG in the middle", flag.duel(0), 5);
+        check.due("duel(1), the WEST draws back", flag.duel(1), 0);
+        ShyStrip flags = Lands.of("n92400 f240 f300 f480");
+        check.due("duel(0), the FLAG in the middle", flags.duel(0), 1);
+        check.due("duel(2), the EAST comes on", flags.duel(2), 3);
+        // the WEST comes on thrice, the EAST draws back thrice
+        ShyStrip all = Lands.of("n91500 p110 p210 p310 p410 p510 p610");
+        check.due("duel(5)", all.duel(5), 3);
+        check.due("duel(6)", all.duel(6), 3);
+        all = Lands.of("n91500 p110 p210 p310 p510 p610 p790");
+        check.due("duel(5)", all.duel(5), 2);
+        check.due("duel(6)", all.duel(6), 11);
     }
 
     private static void peaceOf(Check check, String land, int n, int due, int... crowns) {
