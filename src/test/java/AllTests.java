@@ -13,9 +13,12 @@ final class AllTests {
         WayTests.run(check);
         ChanceTests.run(check);
         ToldTests.run(check);
+        EdgeTests.run(check);
         ModelRuns.run(check);
         RuleTests.run(check);
         check.everyPromiseHasOne();
+        check.everySentenceHasOne();
+        System.out.println("sentences of the document tested by themselves: " + check.sentences());
         System.out.println("checks: " + check.passed() + " as due, " + check.failed() + " not as due");
         if (check.failed() != 0) {
             System.exit(1);

@@ -5,22 +5,33 @@ final class Check {
     static final int PROMISES = 43;
 
     private final TreeMap<Integer, Integer> checks = new TreeMap<>();
+    private final TreeMap<String, Integer> sentences = new TreeMap<>();
     private int promise = 0;
+    private String sentence = "";
     private int passed = 0;
     private int failed = 0;
 
     /** What comes from here on tests this promise. */
     void promise(int number) {
         promise = number;
+        sentence = "";
+    }
+
+    /** What comes from here on tests this sentence of the document. */
+    void sentence(int number, String words) {
+        promise = number;
+        sentence = " '" + words + "'";
+        sentences.put(number + sentence, 0);
     }
 
     void due(String call, long got, long want) {
         checks.merge(promise, 1, Integer::sum);
+        sentences.computeIfPresent(promise + sentence, (key, many) -> many + 1);
         if (got == want) {
             passed++;
         } else {
             failed++;
-            System.out.println("promise " + promise + ": " + call + " answered " + got + ", due is " + want);
+            System.out.println("promise " + promise + sentence + ": " + call + " answered " + got + ", due is " + want);
         }
     }
 
@@ -48,6 +59,16 @@ final class Check {
         due(call + ", lower()", x.lower(), lower);
     }
 
+    /** The first check of a sentence is of its words alone. */
+    void everySentenceHasOne() {
+        for (String words : sentences.keySet()) {
+            if (sentences.get(words) < 2) {
+                failed++;
+                System.out.println("promise " + words + " has no test");
+            }
+        }
+    }
+
     void everyPromiseHasOne() {
         for (int p = 1; p <= PROMISES; p++) {
             if (!checks.containsKey(p)) {
@@ -55,6 +76,10 @@ final class Check {
                 System.out.println("promise " + p + " has no test");
             }
         }
+    }
+
+    int sentences() {
+        return sentences.size();
     }
 
     int passed() {

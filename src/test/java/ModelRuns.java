@@ -3,7 +3,9 @@ import java.util.Random;
 
 /** Long runs of calls by seeds, answered by the class and by the model; what both hold is compared behind each. */
 final class ModelRuns {
-    private static final int RUNS = 6000, CALLS = 60;
+    private static final int RUNS = 8000;
+    // what an object answers behind 512 calls is free; a LAND, papers and a call take fewer than the rest
+    private static final int CALLS_OF_ONE_OBJECT = 512, CALLS_OF_ONE_STEP = 90;
     private static final int[] ODD = {-1, 0, 1, 40, 41, 60, 61, 99, 100, Integer.MIN_VALUE, Integer.MAX_VALUE,
         Integer.MAX_VALUE - 1, Integer.MIN_VALUE + 1, 255, 256, -128, 127, 65536};
     private static final String[] CALL = {"row", "lay", "at", "tear", "copy", "mean", "text", "put", "fault", "land",
@@ -20,6 +22,7 @@ final class ModelRuns {
     private final Model m = new Model();
     private final StringBuilder told = new StringBuilder();
     private boolean unlike = false;
+    private int calls = 0;
 
     private ModelRuns(long seed) {
         random = new Random(seed);
@@ -45,7 +48,7 @@ final class ModelRuns {
     /** What was told unlike; null: nothing. */
     private String slip(int[] answered) {
         layRows();
-        for (int c = 0; c < CALLS; c++) {
+        for (int c = 0; calls + CALLS_OF_ONE_STEP <= CALLS_OF_ONE_OBJECT; c++) {
             if (random.nextInt(12) == 0 || c == 0) {
                 writeLand();
             }
@@ -54,6 +57,7 @@ final class ModelRuns {
             told.append(CALL[call]).append(Arrays.toString(a)).append(' ');
             long got = ofClass(call, a);
             long due = ofModel(call, a);
+            calls += 5;
             answered[call] += due >= 0 || due == ShyStrip.NONE ? 1 : 0;
             if (unlike || got != due || x.asked() != m.asked() || x.upper() != m.upper() || x.lower() != m.lower()
                     || x.finding() != m.finding() || x.digest() != m.digest()) {
@@ -177,6 +181,7 @@ final class ModelRuns {
     }
 
     private long ofClass(int call, int[] a) {
+        calls++;
         return switch (call) {
             case 0 -> x.row(a[0], a[1]);
             case 1 -> x.lay(a[0], a[1], a[2]);
