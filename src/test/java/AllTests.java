@@ -15,6 +15,7 @@ final class AllTests {
         ToldTests.run(check);
         EdgeTests.run(check);
         ModelRuns.run(check);
+        ReadmeTests.run(check);
         RuleTests.run(check);
         check.everyPromiseHasOne();
         check.everySentenceHasOne();
